@@ -707,14 +707,14 @@ public final class SnowCensus {
             if (!has(a)) {
                 return 0;
             }
-            int ofStander = height[a] * sun;
+            int plain = height[a] * sun;
             switch (kind[a]) {
                 case RIDER:
-                    return Math.max(ofStander - 1, 0);
+                    return Math.max(plain - 1, 0);
                 case POLE:
-                    return ofStander / 2;
+                    return plain / 2;
                 default:
-                    return ofStander;
+                    return plain;
             }
         }
 
@@ -748,7 +748,8 @@ public final class SnowCensus {
             long dark = 0;
             for (int a = 0; a < MOST_STANDERS; a++) {
                 if (has(a) && (seen >> a & 1) != 0) {
-                    dark |= (1L << shadeOf(a, sun) + 1) - 1 << foot[a];
+                    long feet = (1L << (shadeOf(a, sun) + 1)) - 1;
+                    dark |= feet << foot[a];
                 }
             }
             return dark;

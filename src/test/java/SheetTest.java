@@ -22,12 +22,14 @@ final class SheetTest {
         for (int k = 0; k < 4; k++) {
             for (int lane = 0; lane <= 2; lane++) {
                 check.due("60 cells", x.sheet(k, lane, 60), 1);
+                check.due("the first", x.put(k, 0, 5), 1);
                 check.due("the last", x.put(k, 59, 5), 1);
                 check.due("beyond", x.put(k, 60, 5), Check.INDEX);
                 check.due("no cells", x.sheet(k, lane, 0), 1);
                 check.due("none of them", x.cell(k, 0, lane), Check.LOST);
                 check.due("INDEX", x.fault(), 3);
                 check.due("a new row", x.sheet(k, lane, 60), 1);
+                check.due("is 0", x.cell(k, 0, lane), 0);
                 check.due("is 0", x.cell(k, 59, lane), 0);
             }
         }
@@ -275,8 +277,55 @@ final class SheetTest {
             check.due("fault() stays", x.fault(), 4);
             check.due("fault() itself, too", x.fault(), 4);
         }
-        x.put(0, 0, 0);
+        faultsGone(x);
+    }
+
+    private static void comeToIndex(SnowCensus x) {
+        x.put(0, 60, 0);
+        check.due("INDEX", x.fault(), 3);
+    }
+
+    /** Calls that name faults leave 0, if they came to none or were refused. */
+    private static void faultsGone(SnowCensus x) {
+        comeToIndex(x);
+        x.put(0, 0, 102);
         check.due("put came to none", x.fault(), 0);
+        comeToIndex(x);
+        x.put(4, 0, 0);
+        check.due("put was refused", x.fault(), 0);
+        comeToIndex(x);
+        x.sheet(1, 0, 2);
+        check.due("sheet came to none", x.fault(), 0);
+        comeToIndex(x);
+        x.sheet(1, 0, 61);
+        check.due("sheet was refused", x.fault(), 0);
+        comeToIndex(x);
+        x.copy(0, 0, 1, 0, 0);
+        check.due("copy came to none", x.fault(), 0);
+        comeToIndex(x);
+        x.copy(0, 0, 4, 0, 0);
+        check.due("copy was refused", x.fault(), 0);
+        comeToIndex(x);
+        x.cell(0, 0, 0);
+        check.due("cell came to none", x.fault(), 0);
+        comeToIndex(x);
+        x.cell(0, 0, 3);
+        check.due("cell was refused", x.fault(), 0);
+        comeToIndex(x);
+        x.as(0, 0);
+        check.due("as came to none", x.fault(), 0);
+        comeToIndex(x);
+        x.walks(1, 1, 0, 0, 0, 0);
+        check.due("walks came to none", x.fault(), 0);
+        comeToIndex(x);
+        x.walks(0, 1, 0, 0, 0, 0);
+        check.due("walks was refused", x.fault(), 0);
+        comeToIndex(x);
+        x.field(0, 0, 0, 3);
+        check.due("field came to none, but to a FIRST FAULT", x.fault(), 0);
+        comeToIndex(x);
+        x.field(0, 3, 0, 3);
+        check.due("field was refused", x.fault(), 0);
     }
 
     private static void many() {
