@@ -8,6 +8,7 @@ final class Check {
         Integer.MAX_VALUE - 1, Integer.MAX_VALUE};
 
     private final String name;
+    private String sentence = "";
     private int asked;
     private int wrong;
 
@@ -15,11 +16,20 @@ final class Check {
         this.name = name;
     }
 
+    /** The words of the document that the answers from here on are due by. */
+    void by(String words) {
+        sentence = " [" + words + "]";
+    }
+
     void due(String call, long got, long want) {
+        dueText(call, Long.toString(got), Long.toString(want));
+    }
+
+    void dueText(String call, String got, String want) {
         asked++;
-        if (got != want) {
+        if (!got.equals(want)) {
             wrong++;
-            System.out.println(name + ": " + call + " answered " + got + ", due is " + want);
+            System.out.println(name + sentence + ": " + call + " answered " + got + ", due is " + want);
         }
     }
 
