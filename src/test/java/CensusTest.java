@@ -104,8 +104,8 @@ final class CensusTest {
         check.due("just so many", Check.of("f10;s01;s00;s00").fair(), 2);
         // census 2, 3, 4 of 4
         check.due("below, then just", Check.of("f10;s01;s00;s00;s00").fair(), 3);
-        // census 1, 3, 5 of 2: off 1, 1, 3
-        check.due("one below, one above: the least sun", Check.of("f10;p01;r02").fair(), 1);
+        // census 2, 4, 6 of 3: off 1, 1, 3
+        check.due("one below, one above: the least sun", Check.of("f10;r02;s00;s00").fair(), 1);
         // all hidden at 2 and 3, off 1; at 1 it is 3, off 2
         check.due("hidden by the tower", Check.of("f15;s92").fair(), 2);
     }

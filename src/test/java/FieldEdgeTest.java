@@ -103,7 +103,7 @@ final class FieldEdgeTest {
         faultOf("f0x", 1);
         faultOf("f3x;x", 2);
         faultOf("f31;s25;x47;s1y", 8);
-        check.by("of the first code with which no TEXT goes on; how many codes there are, if it just ends");
+        check.by("FIRST FAULT: the place (from 0 on) of the first code");
         faultOf("x", 0);
         faultOf("fx", 1);
         faultOf("f31;sx", 5);
@@ -133,7 +133,7 @@ final class FieldEdgeTest {
         faultOf(FIVE + "0", 23);
         faultOf(FIVE + FIVE, 23);
         faultOf((FIVE + ";s11;s22;s33;s44;s55;s66;s77;s88;s99;s00").substring(0, 60), 23);
-        check.by("a fault ahead of the ; of a sixth STANDER");
+        check.by("the first code with which no TEXT goes on");
         faultOf("f31;s25;r47;p09;s11;r2x;s33", 22);
     }
 

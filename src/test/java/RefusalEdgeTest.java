@@ -239,9 +239,10 @@ final class RefusalEdgeTest {
     }
 
     private static void dueFlaw(Call call, int[] v, int world, int answer) {
-        check.by("REFUSALS, in the order in which a call's line tells them");
         String words = words(call, v, world);
         boolean isFault = answer <= Check.NULL && answer >= Check.SIZE;
+        check.by(isFault ? "Of a call the first that is come to, in the order told"
+            : "REFUSALS, in the order in which a call's line tells them");
         int fault = isFault ? -10 - answer : 0;
         // Another one than is due, so that one that just stays is seen.
         int left = fault == 3 ? 4 : 3;
