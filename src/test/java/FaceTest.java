@@ -4,7 +4,9 @@ import java.lang.reflect.Method;
 import java.lang.reflect.Modifier;
 import java.nio.file.Files;
 import java.nio.file.Path;
+import java.util.ArrayList;
 import java.util.Arrays;
+import java.util.List;
 import java.util.Set;
 import java.util.TreeSet;
 import java.util.regex.Matcher;
@@ -28,7 +30,10 @@ final class FaceTest {
         if (args.length != 1) {
             throw new IllegalArgumentException("the program's path is to be told");
         }
-        text(Files.readString(Path.of(args[0])));
+        sizes();
+        String program = Files.readString(Path.of(args[0]));
+        text(program);
+        library(program);
         check.end();
     }
 
@@ -87,8 +92,47 @@ final class FaceTest {
         check.due("public constants", open, 6);
     }
 
+    /** Rule 11: parameters, classes, fields beside constants. */
+    private static void sizes() {
+        List<Class<?>> classes = new ArrayList<>(Arrays.asList(SnowCensus.class.getDeclaredClasses()));
+        classes.add(SnowCensus.class);
+        check.dueTrue("at most 12 classes: " + classes.size(), classes.size() <= 12);
+        for (Class<?> one : classes) {
+            int fields = 0;
+            for (Field f : one.getDeclaredFields()) {
+                fields += Modifier.isStatic(f.getModifiers()) ? 0 : 1;
+            }
+            check.dueTrue(one + " has at most 20 fields: " + fields, fields <= 20);
+            for (Method m : one.getDeclaredMethods()) {
+                check.dueTrue(face(m) + " takes at most 7", m.getParameterCount() <= 7);
+            }
+        }
+    }
+
+    private static String withoutComments(String program) {
+        return program.replaceAll("(?s)/\\*.*?\\*/", "").replaceAll("//[^\n]*", "");
+    }
+
+    /** Rule 4: whatever is called by a class's name is of the list, or of a class inside. */
+    private static void library(String program) {
+        Set<String> allowed = new TreeSet<>(Arrays.asList("Math.abs", "Math.max", "Math.min",
+            "Integer.bitCount", "System.arraycopy", "Long.MIN_VALUE"));
+        Matcher used = Pattern.compile("\\b([A-Z][a-z]\\w*\\.\\w+)").matcher(withoutComments(program));
+        while (used.find()) {
+            check.dueTrue("the program uses " + used.group(1), allowed.contains(used.group(1)));
+        }
+        Matcher made = Pattern.compile("\\bnew (\\w+)").matcher(withoutComments(program));
+        Set<String> own = new TreeSet<>(Set.of("int", "long"));
+        for (Class<?> inside : SnowCensus.class.getDeclaredClasses()) {
+            own.add(inside.getSimpleName());
+        }
+        while (made.find()) {
+            check.dueTrue("the program makes a " + made.group(1), own.contains(made.group(1)));
+        }
+    }
+
     private static void text(String program) {
-        String bare = program.replaceAll("(?s)/\\*.*?\\*/", "").replaceAll("//[^\n]*", "");
+        String bare = withoutComments(program);
         Matcher ruledOut = Pattern.compile("\\b(throw|throws|try|catch|synchronized|assert|import|package|"
             + "random|nanoTime|currentTimeMillis|hashCode|toString|\\w+Exact)\\b|->|::|\"").matcher(bare);
         while (ruledOut.find()) {
